@@ -54,7 +54,7 @@ public final class ModelTest {
         }
 
         int someInstance() {
-            return pick(8) == 0 ? near(12) : pick(4);
+            return pick(20) == 0 ? near(12) : pick(4);
         }
 
         int specializer() {
@@ -67,10 +67,16 @@ public final class ModelTest {
         }
 
         void go() {
-            for (int k = 0; k < 60; k++) {
+            if (number % 4 != 0) {
+                startWell();
+            }
+            if (number % 5 == 4) {
+                startHeavy();
+            }
+            for (int k = 0; k < 40; k++) {
                 buildUp();
             }
-            for (int k = 60; k < CALLS && !due.isWrong(); k++) {
+            for (int k = 100; k < CALLS && !due.isWrong(); k++) {
                 int chance = pick(10);
                 if (chance < 3) {
                     buildUp();
@@ -88,6 +94,53 @@ public final class ModelTest {
             lookAtAll();
         }
 
+        /** Without this most calls would end with the first ERROR. */
+        void startWell() {
+            for (int k = 0; k < 10; k++) {
+                define();
+            }
+            for (int name = 0; name < 6; name++) {
+                int how = pick(2) == 0 ? 1 : 3;
+                check("slot", desk.slot(0, name, how, name), model.slot(0, name, how, name));
+            }
+            for (int k = 0; k < 5; k++) {
+                int c = pick(6), made = model.isClass(c) ? c : 0;
+                check("make", desk.make(made), model.make(made));
+            }
+            for (int g = 0; g < 5; g++) {
+                int n = 1 + pick(2), body = pick(8);
+                check("generic", desk.generic(g, n), model.generic(g, n));
+                check("method", desk.method(g, 0, 0, 0, body), model.method(g, 0, 0, 0, body));
+            }
+        }
+
+        /** AROUNDS that go on twice and PRIMARIES that CALL on reach the 300 steps and the 12 GENERICS. */
+        void startHeavy() {
+            int[] ops = {6, 4, 1, 4, 2, 3, 9};
+            for (int op : ops) {
+                addStep(0, op, pick(6));
+            }
+            for (int b = 1; b < 4; b++) {
+                addStep(b, 5, 0);
+                addStep(b, 6, pick(50));
+                addStep(b, 7, b + pick(2));
+                addStep(b, 8, 0);
+                addStep(b, 7, 4);
+            }
+            for (int k = 0; k < 8; k++) {
+                int g = pick(4), s = pick(3) == 0 ? 16 + pick(5) : pick(6), t = pick(3);
+                check("method", desk.method(g, 3, s, t, 0), model.method(g, 3, s, t, 0));
+            }
+            for (int g = 0; g < 4; g++) {
+                int body = 1 + pick(3);
+                check("method", desk.method(g, 0, 0, 0, body), model.method(g, 0, 0, 0, body));
+            }
+        }
+
+        void addStep(int b, int op, int a) {
+            check("step(" + b + ", " + op + ", " + a + ")", desk.step(b, op, a), model.step(b, op, a));
+        }
+
         void buildUp() {
             switch (pick(16)) {
                 case 0: case 1: define(); break;
@@ -95,8 +148,8 @@ public final class ModelTest {
                 case 4: make(); break;
                 case 5: generic(); break;
                 case 6: case 7: case 8: method(); break;
-                case 9: if (pick(3) == 0) { remove(); } break;
-                case 10: if (pick(2) == 0) { clear(); } break;
+                case 9: if (pick(4) == 0) { remove(); } break;
+                case 10: clear(); break;
                 default: step(); break;
             }
         }
@@ -119,14 +172,15 @@ public final class ModelTest {
 
         void generic() {
             int g = near(5), n = pick(20) == 0 ? pick(5) - 1 : 1 + pick(2);
-            if (pick(3) != 0 && g >= 0 && g < 5 && model.parameters[g] != 0) {
+            // A GENERIC that begins anew loses its METHODS, and too few would be left to call.
+            if (pick(8) != 0 && g >= 0 && g < 5 && model.parameters[g] != 0) {
                 return;
             }
             check("generic(" + g + ", " + n + ")", desk.generic(g, n), model.generic(g, n));
         }
 
         void method() {
-            int g = pick(3) == 0 ? near(5) : pick(2), kind = pick(3) == 0 ? near(4) : 3 * pick(2);
+            int g = pick(3) == 0 ? near(5) : pick(2), kind = pick(2) == 0 ? near(4) : 3 * pick(2);
             int s = specializer(), t = specializer(), body = near(8);
             check("method(" + g + ", " + kind + ", " + s + ", " + t + ", " + body + ")",
                     desk.method(g, kind, s, t, body), model.method(g, kind, s, t, body));
@@ -143,9 +197,9 @@ public final class ModelTest {
         }
 
         void step() {
-            int b = near(8), op = pick(5) == 0 ? 4 : near(10);
+            int b = near(8), op = pick(number % 2 == 0 ? 5 : 30) == 0 ? 4 : near(10);
             int a = op == 8 ? someClass() : op == 7 ? near(5) : op == 2 || op == 3 ? near(6) : pick(100) - 50;
-            check("step(" + b + ", " + op + ", " + a + ")", desk.step(b, op, a), model.step(b, op, a));
+            addStep(b, op, a);
         }
 
         void useSlots() {
