@@ -339,7 +339,7 @@ public final class ClassDesk {
             return d == c || (isThere(d) && placeOf(d, c) >= 0);
         }
 
-        /** Builds the PRECEDENCE of c from the SUPERS in draft: its length, 0 if there is none. */
+        /** Builds in draft the PRECEDENCE of c that follows from the SUPERS: its length, 0 if there is none. */
         private int draw(int c) {
             int all = allAbove(c);
             noteWhatStandsBefore(all);
@@ -833,15 +833,14 @@ public final class ClassDesk {
             int start = into.size;
             for (int m = 0; m < METHODS; m++) {
                 if (ranks[m] >= 0 && methods.kindOf(m) == kind) {
-                    into.insert(m, placeFor(m, start, into));
+                    // AFTERS go from the least specific one on.
+                    into.insert(m, placeFor(m, start, into, kind == AFTER));
                 }
             }
         }
 
         /** Where METHOD m goes among those of its KIND, which stand from place start on. */
-        private int placeFor(int m, int start, Effective into) {
-            // AFTERS go from the least specific one on.
-            boolean isBackward = methods.kindOf(m) == AFTER;
+        private int placeFor(int m, int start, Effective into, boolean isBackward) {
             int place = start;
             while (place < into.size && (ranks[into.row[place]] < ranks[m]) != isBackward) {
                 place++;
@@ -1140,8 +1139,8 @@ public final class ClassDesk {
             switch (op) {
                 case SAY: frame.sum = a; break;
                 case ADD: frame.sum += a; break;
-                case GET: addSlot(frame, a); break;
-                case PUT: setSlot(frame, a); break;
+                case GET: frame.sum += intOrError(instances.read(frame.firstArgument(), a)); break;
+                case PUT: intOrError(instances.write(frame.firstArgument(), a, frame.sum)); break;
                 case NEXT: openNext(frame); break;
                 case HASNEXT: frame.sum = frame.work.effective.nextPlace(frame.place) >= 0 ? 1 : 0; break;
                 case NOTE: notes.take(a); break;
@@ -1152,20 +1151,13 @@ public final class ClassDesk {
             }
         }
 
-        private void addSlot(Frame frame, int name) {
-            long answer = instances.read(frame.firstArgument(), name);
+        /** The int that a SLOT answered; if it was an ERROR, that one ends all. */
+        private int intOrError(long answer) {
             if (isError(answer)) {
                 error = (int) (answer - ERROR);
-            } else {
-                frame.sum += (int) answer;
+                return 0;
             }
-        }
-
-        private void setSlot(Frame frame, int name) {
-            long answer = instances.write(frame.firstArgument(), name, frame.sum);
-            if (isError(answer)) {
-                error = (int) (answer - ERROR);
-            }
+            return (int) answer;
         }
 
         private void openNext(Frame frame) {

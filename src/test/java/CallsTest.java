@@ -18,6 +18,7 @@ public final class CallsTest {
         getAndPut();
         getAndPutFail();
         orderOfAll();
+        beforesAndAftersDoNotMatter();
         aroundDecides();
         aroundTwice();
         nextOfPrimaries();
@@ -25,9 +26,12 @@ public final class CallsTest {
         last();
         inapplicableBeforeAlone();
         specificByFirstThenSecond();
+        specificAlsoAtTheEndOfTheRow();
         specificByPrecedence();
         instanceBeforeClasses();
         callOtherGenerics();
+        oneAfterTheOtherIsNotDeep();
+        callsOfOtherShapes();
         callFails();
         swap();
         swapWithOne();
@@ -174,6 +178,18 @@ public final class CallsTest {
         due.row("notes", notes(desk, 4), 32, 11, 3, 33);
     }
 
+    private static void beforesAndAftersDoNotMatter() {
+        ClassDesk desk = chain(1);
+        body(desk, 0, SAY, 1000);
+        body(desk, 1, ADD, 3);
+        desk.method(0, BEFORE, 0, 0, 0);
+        desk.method(0, BEFORE, 1, 0, 0);
+        desk.method(0, AFTER, 0, 0, 0);
+        desk.method(0, AFTER, 1, 0, 0);
+        desk.method(0, PRIMARY, 0, 0, 1);
+        due.is("X of the PRIMARY is 0 at first", desk.call(0, 1, 0), 3);
+    }
+
     private static void aroundDecides() {
         ClassDesk desk = chain(1);
         body(desk, 0, NOTE, 1, SAY, 9);
@@ -303,6 +319,27 @@ public final class CallsTest {
         due.is("an INSTANCE at the first", desk.call(0, 2, 2), 14);
         due.is("not for others", desk.call(0, 3, 2), 12);
         due.is("both must fit", desk.call(0, 0, 1), INAPPLICABLE);
+        desk.method(1, PRIMARY, 17, 2, 0);
+        due.is("the INSTANCE fits, the second does not", desk.call(1, 1, 1), INAPPLICABLE);
+    }
+
+    private static void specificAlsoAtTheEndOfTheRow() {
+        ClassDesk desk = new ClassDesk();
+        for (int c = 1; c < 12; c++) {
+            desk.define(c, c - 1, -1, -1);
+        }
+        desk.make(11);
+        desk.generic(0, 2);
+        body(desk, 0, SAY, 1, NEXT, 0);
+        body(desk, 1, SAY, 10);
+        // The first PARAMETER decides, however far back the second stands.
+        desk.method(0, PRIMARY, 11, 0, 0);
+        desk.method(0, PRIMARY, 10, 16, 1);
+        due.is("call", desk.call(0, 0, 0), 11);
+        desk.generic(0, 2);
+        desk.method(0, PRIMARY, 10, 16, 1);
+        desk.method(0, PRIMARY, 11, 0, 0);
+        due.is("call", desk.call(0, 0, 0), 11);
     }
 
     private static void specificByPrecedence() {
@@ -337,6 +374,9 @@ public final class CallsTest {
         due.is("another of its class", desk.call(0, 4, 0), 110);
         desk.become(3, 1);
         due.is("it stays that INSTANCE in another class", desk.call(0, 3, 0), 101);
+        desk.method(1, PRIMARY, 19, 0, 0);
+        desk.method(1, PRIMARY, 1, 0, 2);
+        due.is("also where it was defined first", desk.call(1, 3, 0), 101);
     }
 
     private static void callOtherGenerics() {
@@ -361,7 +401,40 @@ public final class CallsTest {
         due.is("behind one with 1 PARAMETER the second is gone", desk.call(1, 1, 2), 2 + 4 + 2 + 2);
         body(desk, 2, SAY, 1, CALL, 3, CALL, 3);
         due.is("X grows each time", desk.call(2, 3, 0), 1 + 16 + 16);
-        due.is("one after the other is not deep", desk.call(2, 3, 0), 33);
+    }
+
+    private static void oneAfterTheOtherIsNotDeep() {
+        ClassDesk desk = chain(1);
+        body(desk, 0, CALL, 1, CALL, 1, CALL, 1, CALL, 1, CALL, 1, CALL, 1, CALL, 1, CALL, 1);
+        body(desk, 1, CALL, 2, CALL, 2, CALL, 2, CALL, 2, CALL, 2, CALL, 2, CALL, 2, CALL, 2);
+        body(desk, 2, ADD, 1);
+        for (int g = 0; g < 3; g++) {
+            desk.method(g, PRIMARY, 0, 0, g);
+        }
+        desk.method(2, AROUND, 0, 0, 3);
+        body(desk, 3, NEXT, 0);
+        due.is("64 at three deep", desk.call(0, 0, 0), 64);
+    }
+
+    /** What one call() left behind in its open BODIES must not be seen by another of another shape. */
+    private static void callsOfOtherShapes() {
+        ClassDesk desk = chain(2);
+        desk.slot(0, 0, 1, 0);
+        for (int i = 0; i < 4; i++) {
+            desk.put(i, 0, 1 << i);
+        }
+        body(desk, 0, NEXT, 0, GET, 0);
+        body(desk, 1, GET, 0);
+        body(desk, 2, SWAP, 0, CALL, 0);
+        desk.method(0, AROUND, 0, 0, 0);
+        desk.method(0, PRIMARY, 0, 0, 1);
+        desk.method(1, PRIMARY, 0, 0, 2);
+        for (int round = 0; round < 2; round++) {
+            due.is("wide", desk.call(0, 1, 2), 4);
+            due.is("deep", desk.call(1, 1, 2), 8);
+            due.is("wide", desk.call(0, 3, 2), 16);
+            due.is("deep", desk.call(1, 3, 0), 2);
+        }
     }
 
     private static void callFails() {
@@ -403,6 +476,11 @@ public final class CallsTest {
         body(desk, 1, GET, 0);
         body(desk, 0, SWAP, 0, CALL, 1);
         due.is("CALL with the arguments as they are then", desk.call(0, 1, 2), 5);
+        body(desk, 1, SWAP, 0, GET, 0);
+        due.is("CALL with the second as it is then", desk.call(0, 1, 2), 10);
+        body(desk, 0, CALL, 1);
+        due.is("CALL without SWAP", desk.call(0, 1, 2), 5);
+        body(desk, 1, GET, 0);
         desk.generic(2, 1);
         desk.method(2, PRIMARY, 0, 0, 1);
         body(desk, 0, SWAP, 0, CALL, 2);

@@ -246,6 +246,9 @@ public final class ClassesTest {
         define(desk, ClassDesk.CYCLE, 1, 11, -1, -1);
         define(desk, 2, 11, 0, -1, -1);
         rowIs(desk, 11, 11, 0);
+        // 11 is below 9 no more, though its PRECEDENCE was longer once.
+        define(desk, 3, 9, 11, -1, -1);
+        rowIs(desk, 10, 10, 9, 11, 0);
     }
 
     private static void precedence() {

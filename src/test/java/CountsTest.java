@@ -192,6 +192,8 @@ public final class CountsTest {
         foundAndKept("found anew", desk, 5, 2);
         desk.remove(1);
         foundAndKept("that of GENERIC 1", desk, 5, 1);
+        desk.method(0, 0, 0, 0, 1);
+        foundAndKept("METHOD 0 gets another BODY", desk, 5, 0);
     }
 
     private static void refusalsForgetNothing() {
@@ -265,6 +267,14 @@ public final class CountsTest {
         foundAndKept("not APPLICABLE at the first", desk, 3, 1);
         desk.call(1, 1, 1);
         foundAndKept("not APPLICABLE at the second", desk, 4, 2);
+        desk.method(1, 1, 0, 16, 0);
+        desk.call(1, 1, 0);
+        desk.call(1, 1, 0);
+        foundAndKept("INSTANCE 0 at the second", desk, 6, 0);
+        desk.method(1, 1, 16, 2, 0);
+        desk.call(1, 0, 1);
+        desk.call(1, 0, 1);
+        foundAndKept("INSTANCE 0 at the first, and not APPLICABLE at the second", desk, 7, 1);
     }
 
     private static void keptBesideInstances() {
