@@ -411,9 +411,10 @@ public final class CallsTest {
         for (int g = 0; g < 3; g++) {
             desk.method(g, PRIMARY, 0, 0, g);
         }
+        due.is("64 at three deep", desk.call(0, 0, 0), 64);
         desk.method(2, AROUND, 0, 0, 3);
         body(desk, 3, NEXT, 0);
-        due.is("64 at three deep", desk.call(0, 0, 0), 64);
+        due.is("64 at three deep with an AROUND", desk.call(0, 0, 0), 64);
     }
 
     /** What one call() left behind in its open BODIES must not be seen by another of another shape. */
