@@ -103,15 +103,15 @@ public final class ClassDesk {
             return REFUSED;
         }
         int parameters = methods.parametersOf(g);
-        // The document frees t from being looked at with 1 PARAMETER alone, so without PARAMETERS it counts.
-        int second = parameters == 1 ? NO_SPECIALIZER : t;
-        if (!isSpecializer(s) || (parameters != 1 && !isSpecializer(second))) {
+        // There is a SPECIALIZER for each PARAMETER, so t is none before there are two of them.
+        boolean hasSecond = parameters == 2;
+        if (!isSpecializer(s) || (hasSecond && !isSpecializer(t))) {
             return REFUSED;
         }
-        if (parameters == 0 || !isSpecializerThere(s) || (parameters == 2 && !isSpecializerThere(second))) {
+        if (parameters == 0 || !isSpecializerThere(s) || (hasSecond && !isSpecializerThere(t))) {
             return NONE;
         }
-        int m = methods.settle(g, kind, s, second, body);
+        int m = methods.settle(g, kind, s, hasSecond ? t : NO_SPECIALIZER, body);
         if (m >= 0) {
             keeper.forget(g);
         }

@@ -10,6 +10,7 @@ public final class GenericsTest {
         methodOfTheSame();
         methodRefuses();
         methodRefusesWhatIsNotThere();
+        methodWithoutParameters();
         methodWithOneParameter();
         methodFull();
         remove();
@@ -148,6 +149,21 @@ public final class GenericsTest {
         method(desk, none, 1, 0, 3, 0, 0);
         due.is("count(2)", desk.count(2), 0);
         method(desk, 0, 1, 0, 18, 2, 0);
+    }
+
+    private static void methodWithoutParameters() {
+        ClassDesk desk = chain();
+        int[] anything = {Integer.MIN_VALUE, -1, 0, 3, 11, 12, 15, 16, 27, 28, Integer.MAX_VALUE};
+        for (int t : anything) {
+            method(desk, ClassDesk.NONE, 2, 0, 0, t, 0);
+            method(desk, ClassDesk.NONE, 2, 3, 18, t, 7);
+            method(desk, ClassDesk.NONE, 2, 0, 9, t, 0);
+            // What is out of range elsewhere is REFUSED still.
+            method(desk, ClassDesk.REFUSED, 2, 4, 0, t, 0);
+            method(desk, ClassDesk.REFUSED, 2, 0, 12, t, 0);
+            method(desk, ClassDesk.REFUSED, 2, 0, 0, t, 8);
+        }
+        due.is("count(2)", desk.count(2), 0);
     }
 
     private static void methodWithOneParameter() {

@@ -575,7 +575,7 @@ public final class ModelTest {
             if (g < 0 || g > 4 || kind < 0 || kind > 3 || body < 0 || body > 7 || !isSpecializer(s)) {
                 return -1;
             }
-            int[] specializers = parameters[g] == 1 ? new int[] {s} : new int[] {s, t};
+            int[] specializers = parameters[g] == 2 ? new int[] {s, t} : new int[] {s};
             for (int k : specializers) {
                 if (!isSpecializer(k)) {
                     return -1;
