@@ -2,12 +2,28 @@
 final class Due {
     private int wrong = 0;
     private int asked = 0;
+    private String heading = "";
+    private boolean isHeadingTold = true;
+
+    /** What the next answers are asked for; it is told only if one of them is wrong. */
+    void under(String what) {
+        heading = what;
+        isHeadingTold = false;
+    }
 
     void is(String what, long got, long want) {
         asked++;
         if (got != want) {
             wrong++;
+            tellHeading();
             System.out.println(what + " answered " + got + ", due is " + want);
+        }
+    }
+
+    private void tellHeading() {
+        if (!isHeadingTold) {
+            isHeadingTold = true;
+            System.out.println(heading);
         }
     }
 
