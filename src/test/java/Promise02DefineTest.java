@@ -28,6 +28,22 @@ public final class Promise02DefineTest {
     }
 
     @Says("Class c is defined, or defined anew, with direct SUPERS s, t, u")
+    static void definedAnewItLeavesWhatWasAboveIt(Due due) {
+        ClassDesk desk = Desks.chain(5);
+        desk.generic(0, 1);
+        desk.slot(1, 0, 3, 5);
+        desk.slot(2, 1, 3, 6);
+        for (int c = 1; c <= 3; c++) {
+            desk.method(0, Desks.PRIMARY, c, 0, 0);
+        }
+        Desks.define(due, desk, 2, 4, 0, -1, -1);
+        Desks.call(due, desk, Desks.INAPPLICABLE, 0, 4, 0);
+        due.is("has(4, 0)", desk.has(4, 0), -1);
+        due.is("has(4, 1)", desk.has(4, 1), -1);
+        due.is("1 may go below it", desk.define(1, 4, -1, -1), 3);
+    }
+
+    @Says("Class c is defined, or defined anew, with direct SUPERS s, t, u")
     static void theLeastAndTheGreatestClass(Due due) {
         ClassDesk desk = new ClassDesk();
         Desks.define(due, desk, 2, 1, 0, -1, -1);
@@ -251,10 +267,26 @@ public final class Promise02DefineTest {
     static void orderLeavesAll(Due due) {
         Desks.leavesAll(due, "define(4, 0, 1, -1)", Desks.ORDER, desk -> desk.define(4, 0, 1, -1));
         Desks.leavesAll(due, "define(2, 1, -1, -1)", Desks.ORDER, desk -> desk.define(2, 1, -1, -1));
-        // Were the refused SUPERS of 2 still held, class 4 would have 1 above it.
-        ClassDesk desk = Desks.busy();
-        desk.define(2, 1, -1, -1);
-        Desks.define(due, desk, 3, 4, 2, -1, -1);
-        Desks.rowIs(due, desk, 4, 4, 2, 0);
+    }
+
+    /** Refused SUPERS must not be seen when a class below is defined later, however many there were. */
+    @Says("ORDER if it, or a SUBCLASS of it, would have no PRECEDENCE.")
+    static void orderLeavesTheSupersThatWere(Due due) {
+        ClassDesk desk = three();
+        desk.define(4, 1, 2, 3);
+        desk.define(5, 1, 2, -1);
+        desk.define(6, 1, -1, -1);
+        for (int c = 4; c <= 6; c++) {
+            Desks.define(due, desk, Desks.ORDER, c, 0, 3, -1);
+            Desks.define(due, desk, Desks.ORDER, c, 0, 3, 2);
+        }
+        Desks.define(due, desk, 6, 7, 4, -1, -1);
+        Desks.rowIs(due, desk, 7, 7, 4, 1, 2, 3, 0);
+        Desks.define(due, desk, 5, 7, 5, -1, -1);
+        Desks.rowIs(due, desk, 7, 7, 5, 1, 2, 0);
+        Desks.define(due, desk, 4, 7, 6, -1, -1);
+        Desks.rowIs(due, desk, 7, 7, 6, 1, 0);
+        Desks.define(due, desk, Desks.ORDER, 8, 0, 1, -1);
+        due.is("one that was not there is not there", desk.define(7, 8, -1, -1), Desks.NONE);
     }
 }

@@ -75,8 +75,12 @@ public final class TermsErrorsTest {
         }
         due.is("its class", desk.look(0, 0), 0);
         due.is("count(3)", desk.count(3), 0);
+        desk.slot(0, 0, 1, 5);
+        Desks.call(due, desk, NONE, 0, 0, 0);
+        due.is("it was not TOUCHED", desk.look(0, 1), 0);
         desk.define(11, 0, -1, -1);
         Desks.call(due, desk, 0, 0, 0, 0);
+        due.is("it was TOUCHED", desk.look(0, 1), 1);
     }
 
     @Says("MISSING: a SLOT that its class does not have.")

@@ -149,10 +149,29 @@ public final class TermsKeptTest {
     static void foundAnewForAnInstanceAtTheSecondParameter(Due due) {
         ClassDesk desk = two();
         desk.method(1, Desks.BEFORE, 0, 18, 2);
+        desk.method(1, Desks.BEFORE, 0, 16, 2);
         for (int round = 1; round <= 3; round++) {
             desk.call(1, 0, 2);
-            Desks.foundAndKept(due, "each time", desk, round, 0);
+            Desks.foundAndKept(due, "each time", desk, 2 * round - 1, 0);
+            desk.call(1, 1, 0);
+            Desks.foundAndKept(due, "each time for INSTANCE 0, too", desk, 2 * round, 0);
         }
+    }
+
+    @Says("but where a METHOD is APPLICABLE that has an INSTANCE as a SPECIALIZER they are found anew each time, and not kept.")
+    static void foundAnewForTheFirstAndTheLastInstance(Due due) {
+        ClassDesk desk = Desks.chain(12);
+        Desks.primary(desk, 0, 1);
+        desk.method(0, Desks.BEFORE, 16, 0, 0);
+        desk.method(0, Desks.BEFORE, 27, 0, 0);
+        for (int round = 1; round <= 2; round++) {
+            desk.call(0, 0, 0);
+            desk.call(0, 11, 0);
+            Desks.foundAndKept(due, "INSTANCES 0 and 11", desk, 2 * round, 0);
+        }
+        desk.call(0, 10, 0);
+        desk.call(0, 10, 0);
+        Desks.foundAndKept(due, "INSTANCE 10", desk, 5, 1);
     }
 
     @Says("where a METHOD is APPLICABLE that has an INSTANCE as a SPECIALIZER")
@@ -229,6 +248,20 @@ public final class TermsKeptTest {
         due.is("REFUSED", desk.method(0, 4, 0, 0, 0), Desks.REFUSED);
         due.is("NONE", desk.method(0, 0, 11, 0, 0), Desks.NONE);
         Desks.foundAndKept(due, "refused", desk, 4, 2);
+    }
+
+    @Says("those of a GENERIC when it, or one of its METHODS, is defined or removed.")
+    static void aMethodForWhichThereIsNoRoomForgetsNothing(Due due) {
+        ClassDesk desk = two();
+        desk.generic(2, 1);
+        int[] specializers = {0, 1, 2, 16};
+        for (int m = 2; m < 16; m++) {
+            Desks.method(due, desk, m, 2, m % 4, specializers[m / 4], 0, 0);
+        }
+        desk.call(0, 0, 0);
+        Desks.foundAndKept(due, "before", desk, 1, 1);
+        due.is("FULL", desk.method(0, Desks.BEFORE, 0, 0, 3), Desks.FULL);
+        Desks.foundAndKept(due, "FULL", desk, 1, 1);
     }
 
     @Says("those of a GENERIC when it, or one of its METHODS, is defined or removed.")
