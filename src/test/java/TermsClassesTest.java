@@ -191,6 +191,21 @@ public final class TermsClassesTest {
         Desks.rowIs(due, desk, 6, 6, 4, 5, 1, 2, 0);
     }
 
+    @Says("that which has a direct SUBCLASS furthest back in the row so far")
+    static void theOrderOfTheSupersDoesNotDecideIt(Due due) {
+        ClassDesk desk = new ClassDesk();
+        desk.define(1, 0, -1, -1);
+        desk.define(2, 1, -1, -1);
+        desk.define(3, 0, -1, -1);
+        desk.define(4, 3, -1, -1);
+        // Behind 5, 2 and 4 the SUPER 1 of 5 itself may follow, but 3 has 4 below it.
+        desk.define(5, 2, 4, 1);
+        Desks.rowIs(due, desk, 5, 5, 2, 4, 3, 1, 0);
+        desk.define(6, 1, 3, -1);
+        desk.define(7, 6, 1, -1);
+        Desks.rowIs(due, desk, 7, 7, 6, 1, 3, 0);
+    }
+
     @Says("(the first one is c)")
     static void theFirstOneIsTheClassItself(Due due) {
         ClassDesk desk = Desks.chain(12);

@@ -311,6 +311,32 @@ public final class TermsErrorsTest {
     }
 
     @Says("or 300 steps were done in one call(), and another one would be.")
+    static void theStepsOfAllGenericsCountTogether(Due due) {
+        ClassDesk desk = busyFor300Steps();
+        desk.generic(1, 1);
+        Desks.body(desk, 3, Desks.NOTE, 1, Desks.CALL, 0);
+        desk.method(1, Desks.PRIMARY, 0, 0, 3);
+        due.is("2 and 300", desk.call(1, 1, 0), Desks.DEEP);
+        due.is("steps", desk.count(9), 300);
+        desk.clear(2);
+        due.is("2 and 48", desk.call(1, 1, 0), 0);
+        desk.step(3, Desks.CALL, 0);
+        due.is("2 and 48 and 1 and 48", desk.call(1, 1, 0), 0);
+        due.is("steps", desk.count(9), 300 + 50 + 99);
+    }
+
+    @Says("or 300 steps were done in one call(), and another one would be.")
+    static void stepsOfBeforesAndAftersCountToo(Due due) {
+        for (int kind = Desks.BEFORE; kind <= Desks.AFTER; kind++) {
+            ClassDesk desk = busyFor300Steps();
+            Desks.body(desk, 3, Desks.ADD, 1);
+            desk.method(0, kind, 0, 0, 3);
+            due.is("KIND " + kind, desk.call(0, 1, 0), Desks.DEEP);
+            due.is("steps", desk.count(9), 300);
+        }
+    }
+
+    @Says("or 300 steps were done in one call(), and another one would be.")
     static void theStepTooManyIsNotLookedAt(Due due) {
         for (int op = Desks.SAY; op <= Desks.SWAP; op++) {
             ClassDesk desk = busyFor300Steps();
