@@ -1020,15 +1020,21 @@ public final class ClassDesk {
             error = 0;
             want(g, x, y);
             for (int turn = 0; turn < MOST_TURNS && error == 0; turn++) {
+                Frame frame = innermost();
                 if (wanted != NO_GENERIC) {
                     beginWanted();
-                } else if (open > 0) {
-                    advance(frames[open - 1]);
+                } else if (frame != null) {
+                    advance(frame);
                 } else {
                     break;
                 }
             }
             return error != 0 ? ERROR + error : given;
+        }
+
+        /** The BODY that was opened last and is not closed: null if there is none. */
+        private Frame innermost() {
+            return open > 0 ? frames[open - 1] : null;
         }
 
         private void want(int g, int x, int y) {
@@ -1119,8 +1125,9 @@ public final class ClassDesk {
             if (frame.work.effective.isAside(frame.place)) {
                 return;
             }
-            if (open > 0) {
-                frames[open - 1].sum += frame.sum;
+            Frame waiting = innermost();
+            if (waiting != null) {
+                waiting.sum += frame.sum;
             } else {
                 given = frame.sum;
             }
